@@ -290,7 +290,33 @@ public final class PromisesTest {
         written(way, times("a", 240), 1, false, times("YWFh", 80));
         written(way, times("a", 239), 0, false, times("YWFh", 79) + "YWE");
         written(way, times("a", 234), 2, true, times(line + "\r\n", 4) + "YWFhYWFh");
+        allLetters(way);
+        afterRemoving(way);
         refusedWriting(way);
+    }
+
+    private static void allLetters(Writing way) {
+        String common = "ABCDEFGHIJKLMNOPQRSTUVWXYZabcdefghijklmnopqrstuvwxyz0123456789";
+        StringBuilder bytes = new StringBuilder();
+        for (int worth = 0; worth < 64; worth += 4) {
+            int bits = worth << 18 | worth + 1 << 12 | worth + 2 << 6 | worth + 3;
+            bytes.append((char) (bits >> 16)).append((char) (bits >> 8 & 255)).append((char) (bits & 255));
+        }
+        written(way, bytes.toString(), 0, true, common + "+/");
+        written(way, bytes.toString(), 1, true, common + "-_");
+        written(way, bytes.toString(), 2, true, common + "+/");
+    }
+
+    /** Bytes that a row had earlier are no bits of a last letter. */
+    private static void afterRemoving(Writing way) {
+        Letterloom x = with("M\u00ff\u00ff");
+        x.remove(0, 1, 2);
+        due(4, () -> way.written(x, 0, 1, 0, true));
+        due("TQ==", () -> text(x, 1));
+        fill(x, 0, "Ma\u00ff");
+        x.remove(0, 2, 1);
+        due(3, () -> way.written(x, 0, 1, 1, false));
+        due("TWE", () -> text(x, 1));
     }
 
     private static void refusedWriting(Writing way) {
