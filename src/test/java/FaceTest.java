@@ -8,7 +8,7 @@ import java.util.Set;
 import java.util.TreeSet;
 
 /** The class has the document's face, with its exceptions, and nothing else to be seen from outside. */
-public final class FaceTest {
+public final class FaceTest extends Checks {
     private static final String[] FACE = {
         "int add(int,int) IndexOutOfBoundsException,IllegalArgumentException,IllegalStateException",
         "int addMore(int,int,int,int,int,int,int,int,int,int)"
@@ -34,13 +34,8 @@ public final class FaceTest {
         "boolean isTrue() ",
     };
 
-    private static int wrong = 0;
-
-    private static void due(String what, boolean holds) {
-        if (!holds) {
-            wrong++;
-            System.out.println("not as due: " + what);
-        }
+    private static void holds(String what, boolean holds) {
+        due(what + ": " + true, () -> what + ": " + holds);
     }
 
     private static String names(Class<?>[] types) {
@@ -56,27 +51,28 @@ public final class FaceTest {
                 + "(" + names(method.getParameterTypes()) + ") " + names(method.getExceptionTypes());
     }
 
-    private static void publicMethods() {
+    static void publicMethods() {
+        sentence("The public face: its methods, with their exceptions, and no others");
         Set<String> seen = new TreeSet<>();
         Set<String> names = new HashSet<>();
         for (Method method : Letterloom.class.getDeclaredMethods()) {
             if (Modifier.isPublic(method.getModifiers())) {
-                due(method.getName() + " is not static", !Modifier.isStatic(method.getModifiers()));
+                holds(method.getName() + " is not static", !Modifier.isStatic(method.getModifiers()));
                 seen.add(line(method));
                 names.add(method.getName());
             }
         }
         Set<String> face = new TreeSet<>(Arrays.asList(FACE));
-        for (String due : face) {
-            due("there is " + due, seen.contains(due));
+        for (String wanted : face) {
+            holds("there is " + wanted, seen.contains(wanted));
         }
         for (String got : seen) {
-            due("the document has " + got, face.contains(got));
+            holds("the document has " + got, face.contains(got));
         }
         hiddenMethods(Letterloom.class, names);
         for (Class<?> inner : Letterloom.class.getDeclaredClasses()) {
-            due(inner + " is not public", !Modifier.isPublic(inner.getModifiers()));
-            due(inner + " is static", Modifier.isStatic(inner.getModifiers()));
+            holds(inner + " is not public", !Modifier.isPublic(inner.getModifiers()));
+            holds(inner + " is static", Modifier.isStatic(inner.getModifiers()));
             hiddenMethods(inner, names);
         }
     }
@@ -85,34 +81,30 @@ public final class FaceTest {
         for (Method method : type.getDeclaredMethods()) {
             if (type == Letterloom.class) {
                 int modifiers = method.getModifiers();
-                due(method + " is public or private", Modifier.isPublic(modifiers) || Modifier.isPrivate(modifiers));
+                holds(method + " is public or private", Modifier.isPublic(modifiers) || Modifier.isPrivate(modifiers));
             }
             if (type != Letterloom.class || Modifier.isPrivate(method.getModifiers())) {
-                due(method + " bears a name of its own", !names.contains(method.getName()));
-                due(method + " takes at most seven parameters", method.getParameterCount() <= 7);
+                holds(method + " bears a name of its own", !names.contains(method.getName()));
+                holds(method + " takes at most seven parameters", method.getParameterCount() <= 7);
             }
         }
     }
 
-    private static void fieldsAndConstructors() {
+    static void fieldsAndConstructors() {
+        sentence("The public face: a final class with one constructor, and no field that can be seen");
         for (Field field : Letterloom.class.getDeclaredFields()) {
-            due(field + " is private", Modifier.isPrivate(field.getModifiers()));
+            holds(field + " is private", Modifier.isPrivate(field.getModifiers()));
             boolean isStatic = Modifier.isStatic(field.getModifiers());
-            due(field + " is final if static", !isStatic || Modifier.isFinal(field.getModifiers()));
+            holds(field + " is final if static", !isStatic || Modifier.isFinal(field.getModifiers()));
         }
         Constructor<?>[] all = Letterloom.class.getDeclaredConstructors();
-        due("there is one constructor", all.length == 1);
-        due("it is public", Modifier.isPublic(all[0].getModifiers()));
-        due("it takes nothing", all[0].getParameterCount() == 0);
-        due("the class is final", Modifier.isFinal(Letterloom.class.getModifiers()));
+        holds("there is one constructor", all.length == 1);
+        holds("it is public", Modifier.isPublic(all[0].getModifiers()));
+        holds("it takes nothing", all[0].getParameterCount() == 0);
+        holds("the class is final", Modifier.isFinal(Letterloom.class.getModifiers()));
     }
 
     public static void main(String[] args) {
-        publicMethods();
-        fieldsAndConstructors();
-        System.out.println(wrong == 0 ? "the face is as due" : wrong + " things are not as due");
-        if (wrong != 0) {
-            System.exit(1);
-        }
+        runAll(FaceTest.class);
     }
 }
