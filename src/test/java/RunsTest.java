@@ -15,6 +15,8 @@ public final class RunsTest extends Checks {
         "letterShare rk", "growth rk", "checksum ", "isTrue ",
     };
 
+    private static final int ADD_MORE = 1;
+
     private static final class Face {
         private final Method ofLoom;
         private final Method ofModel;
@@ -113,16 +115,41 @@ public final class RunsTest extends Checks {
         return picked;
     }
 
+    private static void same(Face face, Letterloom x, Model model, Object... given) {
+        Object want = answer(face.ofModel, model, given);
+        due(want, () -> answer(face.ofLoom, x, given));
+        due(model.checksum(), () -> x.checksum());
+    }
+
+    /** Rows that are full or nearly so would come up too seldom by themselves. Answers how many calls that took. */
+    private static int beginNearlyFull(Random random, Face addMore, Letterloom x, Model model) {
+        int made = 0;
+        for (int row = below(random, 3); row < 3; row++) {
+            int often = 38 + below(random, 3);
+            boolean isOfLetters = random.nextBoolean();
+            for (int i = 0; i < often; i++) {
+                Object[] given = new Object[10];
+                given[0] = row;
+                given[1] = 8;
+                for (int k = 2; k < given.length; k++) {
+                    given[k] = isOfLetters ? (int) 'A' : below(random, 256);
+                }
+                same(addMore, x, model, given);
+                made += 2;
+            }
+        }
+        return made;
+    }
+
     private static void run(Random random, Face[] faces) {
         Letterloom x = new Letterloom();
         Model model = new Model();
         int[] weights = weights(random);
-        for (int made = 0; made < CALLS; made += 2) {
+        int made = random.nextBoolean() ? beginNearlyFull(random, faces[ADD_MORE], x, model) : 0;
+        while (made < CALLS) {
             Face face = faces[pick(random, weights)];
-            Object[] given = madeUp(random, face.takes, model);
-            Object want = answer(face.ofModel, model, given);
-            due(want, () -> answer(face.ofLoom, x, given));
-            due(model.checksum(), () -> x.checksum());
+            same(face, x, model, madeUp(random, face.takes, model));
+            made += 2;
         }
     }
 
